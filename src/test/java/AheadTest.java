@@ -24,11 +24,15 @@ public final class AheadTest {
             Check.due("19: what " + what, x.ahead(5, what), due[what]);
         }
         Check.due("19: none", x.ahead(1, 0), 0);
+        Check.due("19: none", x.ahead(1, 2), 0);
         Check.due("19: none", x.ahead(1, 4), 0);
         Check.due("19: most", x.ahead(60, 0), 30);
         Check.due("19: most", x.ahead(60, 4), 180);
         x.pace(6);
         Check.due("19: even", x.ahead(60, 1), 1);
+        x.set(0, 2, 0);
+        Check.due("19: a size of 1 is a jump", x.ahead(60, 0), 60);
+        Check.due("19: the greatest", x.ahead(60, 2), 1);
         Check.due("19: n 0", x.ahead(0, 0), Check.BEYOND);
         Check.due("19: n 61", x.ahead(61, 0), Check.BEYOND);
         Check.due("19: what -1", x.ahead(1, -1), Check.BEYOND);
@@ -87,6 +91,11 @@ public final class AheadTest {
         x.oil(0, 50);
         Check.due("21: not from those it has on", x.still(0, 60, 0), 12);
         Check.due("21: m 400", x.still(0, 60, 400), 0);
+        x.push(0, 100);
+        x.pace(4);
+        Check.law(x, "10");
+        Check.due("21: holds for two", x.still(0, 2, 0), 0);
+        Check.due("21: not for three", x.still(0, 3, 0), Check.NONE);
         Check.due("21: block", x.still(1, 1, 0), Check.BEYOND);
         Check.due("21: block", x.still(-1, 1, 0), Check.BEYOND);
         Check.due("21: n 0", x.still(0, 0, 0), Check.BEYOND);
@@ -130,6 +139,7 @@ public final class AheadTest {
         Check.due("22: sheet", x.which(0, 4), Check.BEYOND);
         Check.due("22: sheet", x.which(0, -1), Check.BEYOND);
         Check.due("22: missing", x.which(0, 1), Check.MISSING);
+        Check.due("22: the last sheet", x.which(0, 3), Check.MISSING);
         Check.due("22: block ahead of missing", x.which(1, 1), Check.BEYOND);
         x.sheet(1, 8, 0);
         Check.due("22: none", x.which(0, 1), Check.SIZE);
@@ -147,6 +157,7 @@ public final class AheadTest {
         x.push(2, 4);
         // BLOCKS 1 and 2, 4 apart, change places in each TICK.
         Check.due("23: each tick", x.together(1, 2, 60), 60);
+        Check.due("23: one tick", x.together(1, 2, 1), 1);
         Check.due("23: each tick", x.together(2, 0, 7), 7);
         Check.due("23: never", x.together(3, 0, 60), 0);
         x.pace(3);

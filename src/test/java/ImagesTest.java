@@ -74,6 +74,11 @@ public final class ImagesTest {
         x.block(0, 9, 9, 9);
         Check.due("34: the latest", x.image(), 1);
         x.block(0, 9, 9, 9);
+        x.ticks(1);
+        x.push(3, 7);
+        x.oil(3, 5);
+        x.block(0, 9, 9, 0);
+        x.ticks(1);
         Check.due("35: the latest", x.undo(), 3);
         Check.due("35: a new block is new", x.block(0, 8, 7, 6), 3);
         int[] due = {0, 8, 7, 6, 0, 0, 0};
@@ -122,15 +127,21 @@ public final class ImagesTest {
         x.block(0, 1, 0, 1);
         x.pace(2);
         x.ticks(100);
-        x.ticks(30);
+        x.ticks(29);
+        x.pace(8);
+        x.ticks(1);
         x.image();
         x.pace(3);
         x.ticks(50);
         x.undo();
         Check.due("35: ticks", x.count(1), 130);
         Check.due("35: book", x.count(7), 100);
+        Check.due("35: the latest", x.book(0, 2), 8);
+        Check.due("35: the one ahead of it", x.book(1, 2), 2);
+        x.pace(2);
         x.ticks(1);
-        Check.due("35: noise", x.noise(0), 200);
+        Check.due("35: the latest", x.book(0, 2), 2);
+        Check.due("35: noise", x.noise(0), 206);
         Check.due("35: counts", x.counts(1), 131);
     }
 

@@ -222,6 +222,9 @@ public final class LawTest {
     private static void inTicks() {
         DoorCreaks x = new DoorCreaks();
         x.block(3, 1, 0, 1);
+        Check.law(x, "0");
+        Check.due("11: a PULL of 1", x.ticks(1), 1);
+        Check.due("11: a PULL of 1", x.of(0, 5), 1);
         Check.law(x, "9-s*2");
         x.pace(2);
         // PULL 2, 4, 6 by HOLDS 9, 7, 5.

@@ -15,8 +15,10 @@ public final class SheetsTest {
         int[] bits = {8, 16, 64};
         for (int b : bits) {
             Check.due("29: " + b, x.sheet(0, b, 40), 40);
+            Check.due("29: first", x.write(0, 0, 1), 0);
             Check.due("29: last", x.write(0, 39, 1), 0);
             Check.due("29: new again", x.sheet(0, b, 40), 40);
+            Check.due("29: all 0", x.write(0, 0, 1), 0);
             Check.due("29: all 0", x.write(0, 39, 1), 0);
             Check.due("29: 0 numbers", x.sheet(0, b, 0), 0);
             Check.due("29: is there", x.read(0), 0);
@@ -98,6 +100,9 @@ public final class SheetsTest {
         Check.due("31: missing", x.copy(0, 0, 3, 0, 1), Check.MISSING);
         Check.due("31: missing", x.copy(3, -1, 2, 0, 1), Check.MISSING);
         Check.due("31: sheet", x.copy(4, 0, 3, 0, 1), Check.BEYOND);
+        Check.due("31: sheet", x.copy(-1, 0, 3, 0, 1), Check.BEYOND);
+        Check.due("31: sheet", x.copy(0, 0, 4, 0, 1), Check.BEYOND);
+        Check.due("31: sheet", x.copy(0, 0, -1, 0, 1), Check.BEYOND);
         Check.due("31: sheet", x.copy(3, 0, -1, 0, 1), Check.BEYOND);
         long[] is = {100, 101, 0, 102, 103};
         for (int i = 0; i < 5; i++) {
@@ -140,6 +145,7 @@ public final class SheetsTest {
         Check.due("32: of 8 bits", x.count(6), -56 - 43);
         x.sheet(1, 8, 0);
         Check.due("32: none", x.draws(1), 0);
+        Check.due("32: the last sheet", x.draws(3), Check.MISSING);
         Check.due("32: missing", x.draws(2), Check.MISSING);
         Check.due("32: sheet", x.draws(4), Check.BEYOND);
         Check.due("32: sheet", x.draws(-1), Check.BEYOND);

@@ -313,6 +313,9 @@ public final class TicksTest {
         x.ticks(1);
         Check.due("16: the book's last", x.tone(), Check.NONE);
         Check.due("16: counted", x.status(3), 3);
+        x.ticks(100);
+        tickOfSize(x, 1);
+        Check.due("16: not with itself", x.tone(), Check.NONE);
     }
 
     private static void great() {
@@ -336,6 +339,13 @@ public final class TicksTest {
         Check.due("17: the first is gone", x.great(5, 0), 1);
         Check.due("17: none ahead of 3", x.great(3, 0), 4);
         Check.due("17: none ahead of 3", x.great(3, 1), 2);
+        x.ticks(99);
+        Check.due("17: none is left", x.great(1, 0), 0);
+        tickOfSize(x, 1);
+        x.ticks(98);
+        tickOfSize(x, 1);
+        Check.due("17: the first has none ahead", x.great(1, 0), 2);
+        Check.due("17: the first has none ahead", x.great(1, 1), 0);
         DoorCreaks y = chatterer();
         y.ticks(3);
         Check.due("17: 80", y.great(80, 0), 3);
