@@ -868,10 +868,15 @@ public final class DoorCreaks {
 
         /** The FAULT, or -1 if there is none. */
         int findFault() {
-            readAll();
+            begin();
+            sum(0);
+            if (fault < 0 && at < length) {
+                fault = at;
+            }
             return fault;
         }
 
+        /** What it gives, if it has no FAULT. */
         int valueFor(Block it, int number, int newPace, int s) {
             stood = s;
             hold = it.hold;
@@ -879,18 +884,14 @@ public final class DoorCreaks {
             block = number;
             drops = it.drops;
             pace = newPace;
-            return readAll();
+            begin();
+            return sum(0);
         }
 
-        private int readAll() {
+        private void begin() {
             at = 0;
             fault = -1;
             sign = length > 0 ? bytes[0] : END;
-            int value = sum(0);
-            if (fault < 0 && at < length) {
-                fault = at;
-            }
-            return value;
         }
 
         /** Goes past the byte that is wanted; if another stands there, that is the FAULT, and no more is seen. */

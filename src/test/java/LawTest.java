@@ -134,13 +134,6 @@ public final class LawTest {
         }
         Check.law(x, "s+b*g-k/d+p*[s,p]");
         Check.due("28: all", x.says(1), 6 + 77 * 33 - 0 - 9 * 6);
-        for (char c = 0; c < 256; c++) {
-            x.wipe();
-            x.feed(c, 1);
-            boolean isText = names.indexOf(c) >= 0 || c >= '0' && c <= '9';
-            boolean opens = c == '-' || c == '(' || c == '[';
-            Check.due("26: byte " + (int) c, x.law(), isText ? 0 : opens ? -2 : -1);
-        }
     }
 
     private static void faults() {

