@@ -27,6 +27,12 @@ final class AheadEdges {
             "of 0 5 = 0", "of 0 6 = 0", "book 0 0 = BEYOND",
             // What was told ahead comes.
             "ticks 60 = 2", "great 1 0 = 30", "counts 2 = 30");
+        Edge.of("Terms 3", "TICKS are gone on with on a copy;",
+            // STOOD grows on the copy: from STOOD 4 on it holds against 6, so that the 7th TICK is the first to jump.
+            "block 0 5 0 1", "ahead 6 0 = 0", "ahead 7 0 = 1", "ahead 7 4 = 7", "of 0 6 = 0", "NEW",
+            // DROPS wear off on it: OILED holds by 3, then by 4 (4 against 4, then 8), then by 5 (4, then 8).
+            "block 2 10 0 1", "oil 0 2", "pace 4", "ahead 1 0 = 1", "ahead 2 0 = 1", "ahead 3 0 = 2", "ahead 4 0 = 2",
+            "ahead 5 0 = 3", "ahead 5 4 = 20", "of 0 4 = 2");
     }
 
     private static void even() {
@@ -46,7 +52,9 @@ final class AheadEdges {
             // Drawn by 6 already: by PACE 0 it slips once.
             "push 0 -6", "from 1 = 0", "from 2 = 6", "push 0 1", "from 1 = 1", "push 0 5", "set 0 1 98", "from 1 = 99",
             "from 60 = 99", "set 0 1 99", "from 1 = NONE", "push 0 -1", "from 1 = 99", "from 2 = NONE", "set 0 1 999",
-            "from 1 = NONE");
+            "from 1 = NONE",
+            // THE LAW is asked by the PACE tried: by 4 it holds 5 against 4, by 5 it holds 4 against 5.
+            "NEW", "block 3 5 0 1", "LAW '9-p'", "from 1 = 5", "from 60 = 5", "count 5 = 1");
     }
 
     private static void tone() {
